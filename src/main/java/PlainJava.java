@@ -39,6 +39,8 @@ public final class PlainJava {
     private static final int INT = 3;
     private static final int LONG = 4;
     private static final int VOID = 5;
+    private static final long GREATEST_INT = 2147483647L;
+    private static final long GREATEST_LONG = 9223372036854775807L;
 
     // a sign's code is its place in SIGNS
     private static final String SIGNS =
@@ -1634,7 +1636,7 @@ public final class PlainJava {
 
         private void judgeNumber(Exp e) {
             boolean isLong = e.sign == LONG_NUMBER;
-            long greatest = isLong ? Long.MAX_VALUE : Integer.MAX_VALUE;
+            long greatest = isLong ? GREATEST_LONG : GREATEST_INT;
             boolean isOneMore = e.value == greatest + 1 && e.link == 1;
             if ((e.value < 0 || e.value > greatest) && !isOneMore) {
                 program.tell(4, e.first);
@@ -2048,11 +2050,11 @@ public final class PlainJava {
 
         /** Whether an S can end normally; what is in one that can't be reached tells nothing more. */
         private boolean reach(Statement s, boolean alive) {
-            if (!alive || s.level > DEEPEST) {
+            if (!alive) {
                 program.tell(13, s.first);
                 return false;
             }
-            s.ends = reachInside(s);
+            s.ends = s.level <= DEEPEST && reachInside(s);
             return s.ends;
         }
 
@@ -2606,7 +2608,7 @@ public final class PlainJava {
 
     /** Runs a program's code. All calls, values that wait and ways through finally are in rows. */
     private static final class Machine {
-        // how an S or a run ends; the first six are what run() answers
+        // how a run stands; the first six are what run() answers
         private static final int ENDED = 0;
         private static final int WITH_VALUE = 1;
         private static final int THREW = 2;
@@ -2614,7 +2616,9 @@ public final class PlainJava {
         private static final int CALLS_OUT = 4;
         private static final int TOLD_OUT = 5;
         private static final int RUNNING = 6;
-        private static final int NORMALLY = 7;
+        private static final int BY_ZERO = 7;
+        // how a finally was come to, if not by break, continue, return or throw
+        private static final int NORMALLY = 0;
         // far above what 20000 STEPS can need: some 500 orders stand between two of them
         private static final int MOST_ORDERS = 100000000;
         private static final int MOST_WAYS = MOST_CALLS * (DEEPEST + 1) * 4;
@@ -2638,7 +2642,6 @@ public final class PlainJava {
         private int told;
         private int taken;
         private int latest;
-        private boolean isByZero;
         private int outcome;
         private long result;
 
@@ -2728,8 +2731,8 @@ public final class PlainJava {
             Exp e = code.exp[now];
             if (code.order[now] <= Code.CALL && e != null) {
                 work(code.order[now], e);
-                if (isByZero) {
-                    isByZero = false;
+                if (outcome == BY_ZERO) {
+                    outcome = RUNNING;
                     leave(THROW, -1, code.owner[now], null);
                 }
             } else if (code.order[now] <= Code.KEEP_TRUE) {
@@ -2758,7 +2761,7 @@ public final class PlainJava {
 
         private void operate(Exp e, long left, long right) {
             if (isDivision(e.sign) && right == 0) {
-                isByZero = true;
+                outcome = BY_ZERO;
             } else {
                 push(worked(e.sign, e.work, left, right));
             }
@@ -2780,7 +2783,7 @@ public final class PlainJava {
             }
             long left = pop();
             if (isDivision(e.sign) && right == 0) {
-                isByZero = true;
+                outcome = BY_ZERO;
                 return;
             }
             long v = narrowed(e.type, worked(e.sign, e.work, left, right));
