@@ -2796,15 +2796,15 @@ public final class PlainJava {
             if (m == null || !step()) {
                 return;
             }
-            if (calls >= MOST_CALLS) {
+            if (e.link != OUT && e.link != IN) {
+                enter(m);
+            } else if (calls >= MOST_CALLS) {
                 outcome = CALLS_OUT;
             } else if (e.link == OUT) {
                 tellNumber(pop());
-            } else if (e.link == IN) {
+            } else {
                 push(taken < inputCount ? inputs[taken] : 0);
                 taken++;
-            } else {
-                enter(m);
             }
         }
 
@@ -2820,6 +2820,10 @@ public final class PlainJava {
         }
 
         private void enter(Method m) {
+            if (calls >= MOST_CALLS) {
+                outcome = CALLS_OUT;
+                return;
+            }
             returns[calls] = at;
             calls++;
             for (int i = m.params - 1; i >= 0; i--) {
@@ -2830,6 +2834,10 @@ public final class PlainJava {
         }
 
         private void leaveCall(long v) {
+            if (calls <= 0) {
+                outcome = ENDED;
+                return;
+            }
             top = floors[calls];
             calls--;
             at = returns[calls];
