@@ -1156,6 +1156,8 @@ public final class PlainJava {
         private Statement readRow(int depth, boolean isSwitch) {
             Statement first = null;
             Statement last = null;
+            // whatever stands behind a { that is too deep is too much, a } as well
+            isTooDeep(depth);
             for (int i = 0; i <= MOST_TOKENS && fault == 0 && code() != BLOCK_END; i++) {
                 Statement s = readRowPart(depth, isSwitch, first == null);
                 if (last == null) {
@@ -1169,7 +1171,6 @@ public final class PlainJava {
         }
 
         private Statement readRowPart(int depth, boolean isSwitch, boolean isFirst) {
-            isTooDeep(depth);
             if (isSwitch && (code() == CASE || code() == DEFAULT)) {
                 return readCase(depth);
             }
@@ -1542,7 +1543,8 @@ public final class PlainJava {
             Exp e = opened(Exp.CALL, OPEN);
             accept();
             accept();
-            if (code() != CLOSE) {
+            // as behind a {: also a ) at once is too much there
+            if (!isTooDeep(depth + 1) && code() != CLOSE) {
                 e.a = readExp(depth + 1);
                 Exp latest = e.a;
                 for (int i = 0; i <= MOST_TOKENS && takes(COMMA); i++) {
@@ -1716,18 +1718,17 @@ public final class PlainJava {
         private void judgeAssignment(Exp e) {
             Variable v = variableOf(e);
             boolean may = mayChange(e, v);
-            if (v == null || isFaulty(e.b)) {
+            if (v == null) {
                 return;
             }
             if (e.sign == ASSIGN) {
-                may &= isWanted(fits(e.b, v.type), e.b.first);
+                may &= !isFaulty(e.b) && isWanted(fits(e.b, v.type), e.b.first);
             } else {
-                may &= isWanted(isLeftTaken(e.sign, v.type), e.first)
-                    && isWanted(isRightTaken(e.sign, v.type, e.b.type), e.b.first);
-                e.work = workType(e.sign, v.type, e.b.type);
+                may &= areTaken(e, v.type, e.b);
             }
             if (may) {
                 e.type = v.type;
+                e.work = workType(e.sign, v.type, e.b.type);
             }
         }
 
@@ -1736,6 +1737,13 @@ public final class PlainJava {
                 program.tell(5, token);
             }
             return isFine;
+        }
+
+        /** The left operand tells its own ERROR, also beside a right one that is at fault. */
+        private boolean areTaken(Exp e, int left, Exp right) {
+            return isWanted(isLeftTaken(e.sign, left), e.first)
+                && !isFaulty(right)
+                && isWanted(isRightTaken(e.sign, left, right.type), right.first);
         }
 
         private static boolean isLogical(int sign) {
@@ -1771,12 +1779,7 @@ public final class PlainJava {
         private void judgeChain(Exp e) {
             Exp a = e.a;
             Exp b = e.b;
-            if (isFaulty(a) || isFaulty(b)) {
-                return;
-            }
-            boolean isFine = isWanted(isLeftTaken(e.sign, a.type), a.first)
-                && isWanted(isRightTaken(e.sign, a.type, b.type), b.first);
-            if (!isFine) {
+            if (isFaulty(a) || !areTaken(e, a.type, b)) {
                 return;
             }
             e.work = workType(e.sign, a.type, b.type);
@@ -1802,12 +1805,9 @@ public final class PlainJava {
         }
 
         private void judgeChoice(Exp e) {
-            if (isFaulty(e.a) || isFaulty(e.b) || isFaulty(e.c)) {
-                return;
-            }
-            boolean isFine = isWanted(e.a.type == BOOLEAN, e.a.first)
-                && isWanted(e.b.type != VOID, e.b.first)
-                && isWanted(isRightTaken(QUESTION, e.b.type, e.c.type), e.c.first);
+            boolean isFine = !isFaulty(e.a) && isWanted(e.a.type == BOOLEAN, e.a.first)
+                && !isFaulty(e.b) && isWanted(e.b.type != VOID, e.b.first)
+                && !isFaulty(e.c) && isWanted(isRightTaken(QUESTION, e.b.type, e.c.type), e.c.first);
             if (!isFine) {
                 return;
             }
@@ -1849,15 +1849,10 @@ public final class PlainJava {
 
         private void judgeCall(Exp e) {
             int count = 0;
-            for (Exp x = e.a; x != null; x = x.next) {
-                if (isFaulty(x)) {
-                    return;
-                }
-                count++;
-            }
             boolean isFine = true;
             for (Exp x = e.a; x != null; x = x.next) {
-                isFine &= isWanted(x.type != VOID, x.first);
+                isFine &= !isFaulty(x) && isWanted(x.type != VOID, x.first);
+                count++;
             }
             if (!isFine) {
                 return;

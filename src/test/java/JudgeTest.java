@@ -11,6 +11,7 @@ final class JudgeTest {
         jumps(due);
         returnsAndActs(due);
         whichOneIsTold(due);
+        besideWhatIsAtFault(due);
         reached(due);
         reachedThroughTry(due);
         ends(due);
@@ -231,6 +232,33 @@ final class JudgeTest {
         due.error(2, Due.m("int a = 1; int @a = true;"));
         due.error(5, Due.m("return; int a = @true;"));
         due.error(3, "int m() { while (true) ; } int n() { @x = 1; }");
+    }
+
+    /** An exp of another type tells its own 5, also ahead of one that is at fault. */
+    private static void besideWhatIsAtFault(Due due) {
+        due.error(5, Due.m("out(@true + q);"));
+        due.error(5, Due.m("out(1 + (@true * q));"));
+        due.error(5, Due.m("boolean a = @1 && q;"));
+        due.error(5, Due.m("boolean a = @1 || n();"));
+        due.error(5, Due.m("boolean a = @true < 9999999999;"));
+        due.error(5, Due.m("int a = @true << q;"));
+        due.error(5, Due.m("boolean a = @out(1) == q;"));
+        due.error(5, Due.m("boolean a = @out(1) & q;"));
+        due.error(5, Due.m("final int a = 1; out(@true + (a = 2));"));
+        due.error(5, Due.m("out(@1 ? q : 2);"));
+        due.error(5, Due.m("out(@1 ? 2 : q);"));
+        due.error(5, Due.m("out(true ? @out(1) : q);"));
+        due.error(5, Due.m("boolean a = true; @a += q;"));
+        due.error(5, Due.m("boolean a = true; @a <<= q;"));
+        due.error(5, Due.m("n(@out(1), q);"));
+        due.error(5, Due.m("switch (@true) { case q: }"));
+        // these take a boolean as well as a number, so only q is at fault
+        due.error(3, Due.m("boolean a = true == @q;"));
+        due.error(3, Due.m("boolean a = true; a ^= @q;"));
+        due.error(3, Due.m("int a = 1; a ^= @q;"));
+        due.error(3, Due.m("out(true ? true : @q);"));
+        due.error(3, Due.m("out(@q + true);"));
+        due.error(3, Due.m("out(@q ? 1 : true);"));
     }
 
     private static void reached(Due due) {
