@@ -277,7 +277,7 @@ public final class PlainJava {
             return NOTHING;
         }
         Exp e = program.expAt(i, k);
-        return e == null || e.fixed != Exp.CONSTANT ? NOTHING : e.value;
+        return e == null || !e.isConstant ? NOTHING : e.value;
     }
 
     /** Promise 14. */
@@ -658,11 +658,6 @@ public final class PlainJava {
         static final int MARK_TAKE = 14;
         static final int MARK_STORE = 15;
 
-        // what fixed says: a CONSTANT, or made like one, but / or % by 0 is worked out in it
-        static final int FREE = 0;
-        static final int CONSTANT = 1;
-        static final int BY_ZERO = 2;
-
         final int kind;
         final int sign;
         final int first;
@@ -677,7 +672,7 @@ public final class PlainJava {
         int type = FAULTY;
         /** The TYPE in which an operator works; of a cast the one it casts to. */
         int work;
-        int fixed;
+        boolean isConstant;
         long value;
         Exp a;
         Exp b;
@@ -693,10 +688,6 @@ public final class PlainJava {
             this.first = first;
             this.start = start;
             name = first;
-        }
-
-        boolean isConstant() {
-            return fixed == CONSTANT;
         }
 
         /** Whether it can be an S, or one of for's exps. */
@@ -779,7 +770,7 @@ public final class PlainJava {
             if (exp == null) {
                 return value == 1;
             }
-            return exp.isConstant() && exp.value == value;
+            return exp.isConstant && exp.value == value;
         }
     }
 
@@ -1559,7 +1550,7 @@ public final class PlainJava {
         private Exp readLiteral() {
             boolean isNumber = code() == NUMBER || code() == LONG_NUMBER;
             Exp e = opened(isNumber ? Exp.NUMBER_EXP : Exp.LITERAL, code());
-            e.fixed = Exp.CONSTANT;
+            e.isConstant = true;
             e.value = code() == TRUE ? 1 : code() == FALSE ? 0 : tokens.worth[at];
             e.type = code() == CHARACTER ? CHAR : isNumber ? FAULTY : BOOLEAN;
             accept();
@@ -1656,7 +1647,7 @@ public final class PlainJava {
             }
             e.type = v.type;
             if (v.isConstant) {
-                e.fixed = Exp.CONSTANT;
+                e.isConstant = true;
                 e.value = v.value;
             }
         }
@@ -1675,7 +1666,7 @@ public final class PlainJava {
             } else {
                 e.type = e.kind == Exp.PAREN || e.sign == NOT ? a.type : promoted(a.type);
             }
-            e.fixed = a.fixed;
+            e.isConstant = a.isConstant;
             e.value = e.kind == Exp.ALONE ? workedAlone(e.sign, e.type, a.value) : narrowed(e.type, a.value);
         }
 
@@ -1784,23 +1775,18 @@ public final class PlainJava {
             }
             e.work = workType(e.sign, a.type, b.type);
             e.type = e.sign >= SAME && e.sign <= AT_LEAST ? BOOLEAN : e.work;
-            if (a.fixed != Exp.FREE && b.fixed != Exp.FREE) {
-                fixChain(e, a, b);
+            // also of && and || both sides have to be CONSTANTS, whichever a run leaves out
+            e.isConstant = a.isConstant && b.isConstant && !(isDivision(e.sign) && b.value == 0);
+            if (e.isConstant) {
+                e.value = workedChain(e, a.value, b.value);
             }
         }
 
-        private static void fixChain(Exp e, Exp a, Exp b) {
-            if (a.fixed == Exp.BY_ZERO) {
-                e.fixed = Exp.BY_ZERO;
-            } else if (isLogical(e.sign)) {
-                boolean isSettled = a.value == (e.sign == OR_ELSE ? 1 : 0);
-                e.fixed = isSettled ? a.fixed : b.fixed;
-                e.value = isSettled ? a.value : b.value;
-            } else if (b.fixed == Exp.BY_ZERO || isDivision(e.sign) && b.value == 0) {
-                e.fixed = Exp.BY_ZERO;
-            } else {
-                e.fixed = Exp.CONSTANT;
-                e.value = worked(e.sign, e.work, a.value, b.value);
+        private static long workedChain(Exp e, long a, long b) {
+            switch (e.sign) {
+                case AND_THEN: return a & b;
+                case OR_ELSE: return a | b;
+                default: return worked(e.sign, e.work, a, b);
             }
         }
 
@@ -1812,11 +1798,8 @@ public final class PlainJava {
                 return;
             }
             e.type = choiceType(e.b, e.c);
-            if (e.a.fixed != Exp.FREE && e.b.fixed != Exp.FREE && e.c.fixed != Exp.FREE) {
-                Exp chosen = e.a.value == 1 ? e.b : e.c;
-                e.fixed = e.a.isConstant() ? chosen.fixed : Exp.BY_ZERO;
-                e.value = chosen.value;
-            }
+            e.isConstant = e.a.isConstant && e.b.isConstant && e.c.isConstant;
+            e.value = e.a.value == 1 ? e.b.value : e.c.value;
         }
 
         private static int choiceType(Exp b, Exp c) {
@@ -1837,7 +1820,7 @@ public final class PlainJava {
         }
 
         private static boolean isHeld(Exp e, int type) {
-            return e.isConstant() && narrowed(type, e.value) == e.value;
+            return e.isConstant && narrowed(type, e.value) == e.value;
         }
 
         private static boolean fits(Exp e, int type) {
@@ -1896,7 +1879,7 @@ public final class PlainJava {
             if (v == null || isFaulty(e.a) || !isWanted(fits(e.a, v.type), e.a.first)) {
                 return;
             }
-            v.isConstant = v.isFinal && e.a.isConstant();
+            v.isConstant = v.isFinal && e.a.isConstant;
             v.value = e.a.value;
         }
 
@@ -1950,9 +1933,9 @@ public final class PlainJava {
             if (isFaulty(t.exp)) {
                 return;
             }
-            boolean isFine = t.exp.isConstant() && fits(t.exp, s.exp.type);
+            boolean isFine = t.exp.isConstant && fits(t.exp, s.exp.type);
             for (Statement u = s.body; u != null && u != t; u = u.next) {
-                if (u.kind == CASE && !isFaulty(u.exp) && u.exp.isConstant() && u.exp.value == t.exp.value) {
+                if (u.kind == CASE && !isFaulty(u.exp) && u.exp.isConstant && u.exp.value == t.exp.value) {
                     isFine = false;
                 }
             }
@@ -2215,7 +2198,7 @@ public final class PlainJava {
             return done & s.breaks;
         }
 
-        /** A case can go past what is told ahead of it: it is not assigned there, whatever held. */
+        /** What holds ahead of a case: what holds behind the exp and behind the S ahead of the case. */
         private long behindSwitch(Statement s, long before) {
             long chosen = behindExp(s.exp, before);
             long m = ALL;
@@ -2226,9 +2209,6 @@ public final class PlainJava {
                     hasDefault |= t.kind == DEFAULT;
                 } else {
                     m = assign(t, m);
-                }
-                if (t.kind == Statement.TOLD && t.link >= 0) {
-                    chosen &= ~bit(t.link);
                 }
             }
             return (hasDefault ? m : m & chosen) & s.breaks;
@@ -2313,7 +2293,7 @@ public final class PlainJava {
         }
 
         private void takeValue(Exp e) {
-            if (!e.isConstant() && e.link >= 0 && !has(whenTrue & whenFalse, e.link)) {
+            if (!e.isConstant && e.link >= 0 && !has(whenTrue & whenFalse, e.link)) {
                 program.tell(15, e.name);
             }
             join(e, 0);
@@ -2322,7 +2302,7 @@ public final class PlainJava {
         /** Both sides come together; behind a CONSTANT the side that it never takes holds all. */
         private void join(Exp e, long more) {
             long m = whenTrue & whenFalse | more;
-            boolean isFixed = e.isConstant() && e.type == BOOLEAN;
+            boolean isFixed = e.isConstant && e.type == BOOLEAN;
             whenTrue = isFixed && e.value == 0 ? ALL : m;
             whenFalse = isFixed && e.value == 1 ? ALL : m;
         }
@@ -2569,7 +2549,7 @@ public final class PlainJava {
         private void layOne(Exp e) {
             switch (e.kind) {
                 case Exp.NUMBER_EXP: case Exp.LITERAL: put(VALUE, e); break;
-                case Exp.NAME_EXP: put(e.isConstant() ? VALUE : LOAD, e); break;
+                case Exp.NAME_EXP: put(e.isConstant ? VALUE : LOAD, e); break;
                 case Exp.MARK_TAKE: put(LOAD, e); break;
                 case Exp.ALONE: put(ALONE, e); break;
                 case Exp.CAST: put(CAST, e); break;

@@ -202,15 +202,23 @@ final class AskTest {
         constant(due, "in()", Due.NOTHING);
         constant(due, "(v = 1)", Due.NOTHING);
         constant(due, "v++", Due.NOTHING);
-        // / and % by 0: no CONSTANT only where it is worked out
+        // / and % by 0: no CONSTANT, nor what it is a part of, whichever side a run would leave out
         constant(due, "(1 / 0)", Due.NOTHING);
         constant(due, "(1 % 0)", Due.NOTHING);
         constant(due, "(1L / (5 - k))", Due.NOTHING);
-        constant(due, "(true ? 1 : 1 / 0)", 1);
+        constant(due, "(true ? 1 : 1 / 0)", Due.NOTHING);
+        constant(due, "(false ? 1 % 0 : 1)", Due.NOTHING);
+        constant(due, "(1 / 0 == 1 ? 2 : 3)", Due.NOTHING);
+        constant(due, "(byte) (true ? 1 : -(1 / 0))", Due.NOTHING);
         constant(due, "(false ? 1 : 1 / 0)", Due.NOTHING);
-        constant(due, "(false && 1 / 0 == 1)", 0);
+        constant(due, "(false && 1 / 0 == 1)", Due.NOTHING);
+        constant(due, "(1 / 0 == 1 && false)", Due.NOTHING);
+        constant(due, "(false && true)", 0);
+        constant(due, "(true && true)", 1);
+        constant(due, "(true || false)", 1);
+        constant(due, "(false || false)", 0);
         constant(due, "(true && 1 / 0 == 1)", Due.NOTHING);
-        constant(due, "(true || 1 / 0 == 1)", 1);
+        constant(due, "(true || 1 / 0 == 1)", Due.NOTHING);
         constant(due, "(1 / 0 == 1 || true)", Due.NOTHING);
         constant(due, "(0 * (1 / 0))", Due.NOTHING);
         String text = Due.m("out(-2147483648); out(-9223372036854775808L); final int a = 1 / 0; out(a); final int b = in(); out(b); int c = 3; out(c);");

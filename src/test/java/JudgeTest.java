@@ -124,6 +124,8 @@ final class JudgeTest {
         due.error(5, Due.m("byte a = 1; char b = 2; byte c = @in() > 1 ? a : b;"));
         due.error(5, Due.m("byte a = 1; byte b = @in() > 1 ? a : 128;"));
         due.error(5, Due.m("int a = 1; byte b = @true ? a : 5;"));
+        due.error(5, Due.m("byte a = @true ? 1 : 1 / 0;"));
+        due.error(5, Due.m("byte a = 1; byte b = @in() > 1 ? a : true ? 1 : 1 % 0;"));
     }
 
     private static void calls(Due due) {
@@ -167,12 +169,14 @@ final class JudgeTest {
         due.error(8, Due.m("switch (1) { case @true: }"));
         due.error(8, Due.m("switch (1) { case @1L: }"));
         due.error(8, Due.m("switch (1) { case @1 / 0: }"));
+        due.error(8, Due.m("switch (1) { case @true ? 1 : 1 / 0: }"));
+        due.error(8, Due.m("switch (1) { case @false && 1 % 0 == 1 ? 5 : 6: }"));
         due.error(8, Due.m("switch (1) { case @in(): }"));
         due.error(8, Due.m("switch (1) { case 'a': case @97: }"));
         due.error(8, Due.m("final int x = in(); switch (1) { case @x: }"));
         due.fine(Due.m("switch (1) { case 1: switch (2) { case 1: default: } case 2: default: }"));
         due.fine(Due.m("switch ('a') { case 65535: case 0: } switch ((byte) 1) { case 'a': case -128: }"));
-        due.fine(Due.m("switch (1) { case true ? 1 : 1 / 0: case false && 1 % 0 == 1 ? 5 : 6: }"));
+        due.fine(Due.m("switch (1) { case true ? 1 : 2 / 3: case false && 1 % 2 == 1 ? 5 : 6: }"));
     }
 
     private static void jumps(Due due) {
@@ -282,6 +286,8 @@ final class JudgeTest {
         due.error(13, Due.m("switch (1) { case 1: break; @; case 2: }"));
         due.error(13, Due.m("switch (1) { case 1: return; default: return; } @;"));
         due.error(13, Due.m("{ return; } @;"));
+        // a side that is left out, but is no CONSTANT, leaves none
+        due.fine(Due.m("while (true || 1 / 0 == 1) ; ; while (false && 1 % 0 == 1) ; do ; while (true ? true : 1 / 0 == 1); ;"));
         due.fine(Due.m("if (true) return; ; "));
         due.fine(Due.m("if (false) { out(1); } while (in() > 1) ; boolean a = true; while (a) ; ;"));
         due.fine(Due.m("while (true) break; ; do { continue; } while (in() > 1); ; do { if (in() > 1) break; } while (true); ;"));
@@ -321,6 +327,7 @@ final class JudgeTest {
         due.error(14, "int @m() { while (true) break; }");
         due.error(14, "int @m(int a) { while (a > 1) return 1; }");
         due.error(14, "int @m() { try { return 1; } catch (e) { } }");
+        due.error(14, "int @m() { for (; true || 1 / 0 == 1; ) ; }");
         due.error(14, "boolean @m(int a) { switch (a) { case 1: return true; } }");
         due.fine("int m(int a) { if (a > 1) return 1; else return 2; } int n() { while (true) ; } int o() { throw 1; }");
         due.fine("int m(int a) { switch (a) { case 1: return 1; default: throw 2; } } int n() { for (;;) ; }");
@@ -344,6 +351,12 @@ final class JudgeTest {
         due.error(15, Due.m("int a; switch (1) { case 1: a = 1; break; } out(@a);"));
         due.error(15, Due.m("int a; switch (1) { default: a = 1; case 2: } out(@a);"));
         due.error(15, Due.m("switch (1) { case 1: int a = 1; case 2: out(@a); }"));
+        // ahead of a later case: what holds behind the exp, and behind the S ahead of the case
+        due.fine(Due.m("if (false) switch (1) { case 1: int a; break; case 2: out(a); }"));
+        due.fine(Due.m("if (false) switch (1) { case 1: int a; throw 1; default: out(a); }"));
+        due.error(15, Due.m("if (false) switch (1) { case 1: int a; case 2: out(@a); }"));
+        due.error(15, Due.m("if (true) switch (1) { case 1: int a; break; case 2: out(@a); }"));
+        due.error(15, Due.m("if (false) switch (1) { case 1: int a; break; case 2: out(a); int b; out(@b); }"));
         due.error(15, Due.m("int a; int b; b = 1; out(b); out(@a); a = 1; out(a);"));
         due.fine(Due.m("int a; a = 1; out(a); a++; int b; out(b = 1); out(b); int c = (c = 1) + c;"));
         due.fine(Due.m("int a; if (in() > 1) a = 1; else a = 2; out(a);"));
@@ -380,6 +393,9 @@ final class JudgeTest {
         due.error(15, Due.m("int a; if (in() > 1 & (a = 1) > 0) out(a); out(a); int b; if (in() > 1 | in() > 2) b = 1; out(@b);"));
         due.error(15, Due.m("if (false) { int a; out(@a); }"));
         due.fine(Due.m("int a; if (in() > 1 && true) a = 1; else return; out(a);"));
+        // also where a part is no CONSTANT, the parts that are CONSTANTS hold all on the other side
+        due.fine(Due.m("int a; if (false && 1 / 0 == 1) out(a); int b; if (true || 1 / 0 == 1) b = 1; out(b);"));
+        due.error(15, Due.m("int a; if ((1 / 0 == 1) || true) a = 1; int b; if ((false && 1 / 0 == 1) | false) out(@b);"));
     }
 
     private static void assignedAlongJumps(Due due) {
