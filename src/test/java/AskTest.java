@@ -84,7 +84,7 @@ final class AskTest {
             {"f(a));", 0, 100}, {"a));", 0, 0}, {"f(b)", 0, 101}, {"c) {", 0, 3}, {"out(c)", 0, 110}, {"c); b", 0, 3}, {"b = c", 0, 2},
             {"c++", 0, 3}, {"f(long a)", 0, 101}, {"f(a, 1)", 0, 102}, {"a, 1", 0, 4}, {"f, int", 0, 5}, {"g) {", 0, 6}};
         for (Object[] ask : asked) {
-            int token = Due.tokenAt(x, text, (String) ask[0], (Integer) ask[1]);
+            int token = Due.tokenAt(text, (String) ask[0], (Integer) ask[1]);
             due.same("means of " + ask[0], x.means(token), (Integer) ask[2]);
         }
         due.same("means(0): int", x.means(0), PlainJava.BAD);
@@ -98,8 +98,8 @@ final class AskTest {
 
     /** Asks for the exp of a text's piece. */
     private static void type(Due due, PlainJava x, String text, String piece, int want) {
-        int i = Due.tokenAt(x, text, piece, 0);
-        int k = Due.tokenBehind(x, text, piece, 0);
+        int i = Due.tokenAt(text, piece, 0);
+        int k = Due.tokenBehind(text, piece, 0);
         due.same("type of " + piece, x.type(i, k), want);
     }
 
@@ -120,11 +120,11 @@ final class AskTest {
         }
         // no exps: a chain's right part, what is assigned to, a method's NAME, half of an exp
         type(due, x, text, "1 - i - 2", -1);
-        int b = Due.tokenAt(x, text, "b = 5", 0);
+        int b = Due.tokenAt(text, "b = 5", 0);
         due.same("the variable of an assignment is no exp", x.type(b, b), PlainJava.BAD);
-        int c = Due.tokenAt(x, text, "c++", 0);
+        int c = Due.tokenAt(text, "c++", 0);
         due.same("the variable of ++ is no exp", x.type(c, c), PlainJava.BAD);
-        int in = Due.tokenAt(x, text, "in()", 0);
+        int in = Due.tokenAt(text, "in()", 0);
         due.same("a method's NAME is no exp", x.type(in, in), PlainJava.BAD);
         due.same("type(0, 0)", x.type(0, 0), PlainJava.BAD);
         due.same("type(-1, -1)", x.type(-1, -1), PlainJava.BAD);
@@ -157,8 +157,8 @@ final class AskTest {
         String text = "void m(int v) { final byte k = 5; final long g = 1L << 40; final boolean t = 1 < 2; boolean d = @ == @; "
             .replace("@", exp) + "}";
         PlainJava x = Due.of(text);
-        int i = Due.tokenAt(x, text, "d = " + exp, 0) + 2;
-        int k = Due.tokenBehind(x, text, "d = " + exp, 0);
+        int i = Due.tokenAt(text, "d = " + exp, 0) + 2;
+        int k = Due.tokenBehind(text, "d = " + exp, 0);
         due.same("judge() of " + exp, x.judge(), 0);
         due.same("constant of " + exp, x.constant(i, k), want);
     }
@@ -223,13 +223,13 @@ final class AskTest {
         constant(due, "(0 * (1 / 0))", Due.NOTHING);
         String text = Due.m("out(-2147483648); out(-9223372036854775808L); final int a = 1 / 0; out(a); final int b = in(); out(b); int c = 3; out(c);");
         PlainJava x = Due.of(text);
-        int i = Due.tokenAt(x, text, "2147483648", 0);
+        int i = Due.tokenAt(text, "2147483648", 0);
         due.same("2147483648 by itself behind -", x.constant(i, i), -2147483648L);
         due.same("and its TYPE", x.type(i, i), 3);
-        i = Due.tokenAt(x, text, "9223372036854775808L", 0);
+        i = Due.tokenAt(text, "9223372036854775808L", 0);
         due.same("9223372036854775808L by itself behind -", x.constant(i, i), Long.MIN_VALUE);
         for (String name : new String[] {"a", "b", "c"}) {
-            i = Due.tokenAt(x, text, name + ");", 0);
+            i = Due.tokenAt(text, name + ");", 0);
             due.same("constant of " + name, x.constant(i, i), Due.NOTHING);
         }
         due.same("constant(0, 0)", x.constant(0, 0), Due.NOTHING);
@@ -251,7 +251,7 @@ final class AskTest {
             {"{ int b", -1}, {"{ out(5)", -1}, {"{ throw 6", -1}, {"{ } try { return", -1}, {"int i = 8", -1}, {"case 1", -1}, {"default", -1}, {"int m", -1},
             {"while (a > 12)", -1}, {"else break", -1}, {"b = 1", -1}, {"} }", -1}};
         for (Object[] ask : asked) {
-            due.same("ends of " + ask[0], x.ends(Due.tokenAt(x, text, (String) ask[0], 0)), (Integer) ask[1]);
+            due.same("ends of " + ask[0], x.ends(Due.tokenAt(text, (String) ask[0], 0)), (Integer) ask[1]);
         }
         due.same("ends(-1)", x.ends(-1), PlainJava.BAD);
         due.same("ends behind the last", x.ends(x.told(0)), PlainJava.BAD);
@@ -274,16 +274,16 @@ final class AskTest {
             {"int j", 1, -1}, {"case 1", 1, -1}, {"{ int f", 1, -1}};
         for (Object[] ask : asked) {
             due.same("assigned ahead of " + ask[0] + " of " + ask[1],
-                x.assigned(Due.tokenAt(x, text, (String) ask[0], 0), (Integer) ask[1]), (Integer) ask[2]);
+                x.assigned(Due.tokenAt(text, (String) ask[0], 0), (Integer) ask[1]), (Integer) ask[2]);
         }
         due.same("assigned(-1, 0)", x.assigned(-1, 0), PlainJava.BAD);
         due.same("assigned(0, 0)", x.assigned(0, 0), PlainJava.BAD);
         String open = Due.m("int a; if (in() > 1 && (a = 1) > 0) out(1); else out(2); if (in() > 1) { a = 2; } else return; out(3);");
         PlainJava y = Due.of(open);
-        due.same("where it is true", y.assigned(Due.tokenAt(y, open, "out(1)", 0), 0), 1);
-        due.same("where it is false", y.assigned(Due.tokenAt(y, open, "out(2)", 0), 0), 0);
-        due.same("behind both", y.assigned(Due.tokenAt(y, open, "if (in() > 1) {", 0), 0), 0);
-        due.same("where the other side returns", y.assigned(Due.tokenAt(y, open, "out(3)", 0), 0), 1);
+        due.same("where it is true", y.assigned(Due.tokenAt(open, "out(1)", 0), 0), 1);
+        due.same("where it is false", y.assigned(Due.tokenAt(open, "out(2)", 0), 0), 0);
+        due.same("behind both", y.assigned(Due.tokenAt(open, "if (in() > 1) {", 0), 0), 0);
+        due.same("where the other side returns", y.assigned(Due.tokenAt(open, "out(3)", 0), 0), 1);
     }
 
     private static void withAnError(Due due) {

@@ -1,9 +1,16 @@
 import java.nio.charset.StandardCharsets;
+import java.util.ArrayList;
 import java.util.Arrays;
+import java.util.List;
+import java.util.regex.Matcher;
+import java.util.regex.Pattern;
 
 /** What the tests share: texts are fed, answers are compared, and a wrong one ends the test with 1. */
 final class Due {
     static final long NOTHING = -1234567890123L;
+    private static final Pattern TOKEN = Pattern.compile(
+        "//[^\\n]*|[A-Za-z][A-Za-z0-9]*|[0-9]+L?|'.'|>>>=|<<=|>>=|>>>|<<|>>|&&|\\|\\||\\+\\+|--|[-+*/%&|^=!<>]=|[\\s\\S]");
+    static final String[] TYPES = {"boolean", "byte", "char", "int", "long"};
     private int wrong;
     private int looked;
 
@@ -84,32 +91,87 @@ final class Due {
         same("place() of " + text, x.place(), PlainJava.NO);
     }
 
-    /** Which token begins at the n-th (from 0) place where a piece of text stands. */
-    static int tokenAt(PlainJava x, String text, String piece, int n) {
+    /**
+     * The tokens of a text that has no FAULT 1: of each its place and the place behind it. The tests
+     * cut texts themselves, so that looking for a token costs an object none of its 512 calls.
+     */
+    static List<int[]> tokens(String text) {
+        List<int[]> found = new ArrayList<>();
+        Matcher m = TOKEN.matcher(text);
+        while (m.find()) {
+            if (!m.group().startsWith("//") && !m.group().isBlank()) {
+                found.add(new int[] {m.start(), m.end()});
+            }
+        }
+        return found;
+    }
+
+    private static int placeOf(String text, String piece, int n) {
         int place = -1;
         for (int i = 0; i <= n; i++) {
             place = text.indexOf(piece, place + 1);
+            if (place < 0) {
+                throw new IllegalStateException("there is no " + piece + " in " + text);
+            }
         }
-        for (int i = 0; i < x.told(0); i++) {
-            if (x.token(i, 0) == place) {
+        return place;
+    }
+
+    private static int tokenWith(String text, int which, int place) {
+        List<int[]> all = tokens(text);
+        for (int i = 0; i < all.size(); i++) {
+            if (all.get(i)[which] == place) {
                 return i;
             }
         }
-        throw new IllegalStateException("no token at " + piece + " of " + text);
+        throw new IllegalStateException("no token begins or ends at " + place + " of " + text);
+    }
+
+    /** Which token begins at the n-th (from 0) place where a piece of text stands. */
+    static int tokenAt(String text, String piece, int n) {
+        return tokenWith(text, 0, placeOf(text, piece, n));
     }
 
     /** Which token ends where a piece of text does, the n-th one. */
-    static int tokenBehind(PlainJava x, String text, String piece, int n) {
-        int place = -1;
-        for (int i = 0; i <= n; i++) {
-            place = text.indexOf(piece, place + 1);
+    static int tokenBehind(String text, String piece, int n) {
+        return tokenWith(text, 1, placeOf(text, piece, n) + piece.length());
+    }
+
+    /** What Java itself makes of two ints or two longs; null: / or % by 0. */
+    static Long worked(String sign, boolean isLong, long a, long b) {
+        int i = (int) a;
+        int k = (int) b;
+        switch (sign) {
+            case "+": return isLong ? a + b : i + k;
+            case "-": return isLong ? a - b : i - k;
+            case "*": return isLong ? a * b : i * k;
+            case "/": return b == 0 ? null : (Long) (isLong ? a / b : i / k);
+            case "%": return b == 0 ? null : (Long) (isLong ? a % b : i % k);
+            case "<<": return isLong ? a << b : i << b;
+            case ">>": return isLong ? a >> b : i >> b;
+            case ">>>": return isLong ? a >>> b : i >>> b;
+            case "&": return a & b;
+            case "|": return a | b;
+            case "^": return a ^ b;
+            case "<": return a < b ? 1L : 0L;
+            case "<=": return a <= b ? 1L : 0L;
+            case ">": return a > b ? 1L : 0L;
+            case ">=": return a >= b ? 1L : 0L;
+            case "==": return a == b ? 1L : 0L;
+            case "!=": return a != b ? 1L : 0L;
+            default: throw new IllegalStateException(sign);
         }
-        for (int i = 0; i < x.told(0); i++) {
-            if (x.token(i, 0) + x.token(i, 1) == place + piece.length()) {
-                return i;
-            }
-        }
-        throw new IllegalStateException("no token ends " + piece + " of " + text);
+    }
+
+    /** A value as a text has it, in ( ) if it is below 0. */
+    static String literal(boolean isLong, long v) {
+        String text = v + (isLong ? "L" : "");
+        return v < 0 ? "(" + text + ")" : text;
+    }
+
+    /** Whether a value of one TYPE is one of the other without a cast: the same, or it WIDENS. */
+    static boolean widens(int from, int to) {
+        return from == to || from >= 1 && from <= 3 && to == 4 || (from == 1 || from == 2) && to == 3;
     }
 
     static String repeated(String piece, int times) {

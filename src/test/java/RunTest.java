@@ -318,7 +318,7 @@ final class RunTest {
             due.same("run(0, " + steps + ")", x.run(0, steps), steps < begun.length ? 3 : 0);
             due.same("ran(1)", x.ran(1), steps);
             int n = "; }".equals(now) ? 2 : 0;
-            due.same("ran(4) behind " + steps, x.ran(4), now == null ? Due.NOTHING : Due.tokenAt(x, text, now, n));
+            due.same("ran(4) behind " + steps, x.ran(4), now == null ? Due.NOTHING : Due.tokenAt(text, now, n));
         }
     }
 

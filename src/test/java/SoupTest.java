@@ -14,7 +14,7 @@ final class SoupTest {
 
     public static void main(String[] args) {
         Due due = new Due();
-        for (int seed = 0; seed < 300; seed++) {
+        for (int seed = 0; seed < 600; seed++) {
             long first = calls(new Random(seed), due);
             due.same("the same calls again, seed " + seed, calls(new Random(seed), due), first);
         }
@@ -25,9 +25,11 @@ final class SoupTest {
     private static long calls(Random r, Due due) {
         PlainJava x = new PlainJava();
         long sum = 0;
-        for (int i = 0; i < 500; i++) {
-            long answer = call(x, r);
-            sum = sum * 31 + answer;
+        // an object is used for at most 512 calls, and a text takes up to thirty of them
+        int[] made = {0};
+        while (made[0] < 480) {
+            made[0]++;
+            sum = sum * 31 + call(x, r, made);
         }
         return sum;
     }
@@ -37,7 +39,7 @@ final class SoupTest {
         return r.nextInt(5) == 0 ? odd[r.nextInt(odd.length)] : r.nextInt(40) - 1;
     }
 
-    private static long call(PlainJava x, Random r) {
+    private static long call(PlainJava x, Random r, int[] made) {
         switch (r.nextInt(24)) {
             case 0: return x.feed(r.nextInt(), r.nextInt(), any(r), any(r), any(r));
             case 1: return x.cut(any(r));
@@ -48,6 +50,7 @@ final class SoupTest {
                 }
                 x.cut(x.cut(0));
                 Due.feed(x, text.toString());
+                made[0] += 3 + (text.length() + 19) / 20;
                 return x.read();
             case 5: return x.read();
             case 6: return x.place();
