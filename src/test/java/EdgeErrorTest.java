@@ -21,6 +21,7 @@ final class EdgeErrorTest {
         andOthersDo(due);
         laterOnesOnlyWithoutEarlier(due);
         meansIsLookedAtFirst(due);
+        whateverErrorItIs(due);
         whatIsAskedWithAnError(due);
         due.end();
     }
@@ -353,7 +354,7 @@ final class EdgeErrorTest {
 
     /** "What is at fault, its exp around it, tells no other ERROR of types (5, 8, 11) of what it stands in" */
     private static void whatIsAtFaultTellsNoMore(Due due) {
-        Object[][] faults = {{3, "@x"}, {4, "@9999999999"}, {6, "@f()"}, {5, "(1 + @true)"}, {5, "-@true"}, {7, "(@k = 2)"}, {7, "@k++"}, {3, "(@x + 1)"}, {3, "(byte) @x"},
+        Object[][] faults = {{3, "@x"}, {4, "@9999999999"}, {6, "@f()"}, {5, "(1 + @true)"}, {5, "-@true"}, {7, "(@k = 2)"}, {7, "(@k += 2)"}, {7, "(@k <<= 2)"}, {7, "@k++"}, {7, "--@k"}, {3, "(@x + 1)"}, {3, "(byte) @x"},
             {3, "(@x ? 1 : 2)"}, {3, "(in() > 1 ? 1 : @x)"}, {3, "out(@x)"}, {6, "in(@f())"}, {3, "(v = @x)"}, {5, "(v = @true)"}, {3, "(v += @x)"}, {3, "in(1, @x)"}};
         for (Object[] row : faults) {
             int error = (Integer) row[0];
@@ -372,6 +373,9 @@ final class EdgeErrorTest {
             due.error(error, Due.m(told + "in(" + exp + ");"));
             due.error(error, Due.m(told + "out(1, " + exp + ");"));
             due.error(error, Due.m(told + "out(true, 1, " + exp + ");"));
+            due.error(error, Due.m(told + "f(" + exp + ", 1);"));
+            due.error(error, Due.m(told + "in(1, " + exp + ", true);"));
+            due.error(error, Due.m(told + "o = out(" + exp + ", 1, 2);"));
             due.error(error, Due.m(told + "boolean b = in(" + exp + ");"));
         }
     }
@@ -431,6 +435,37 @@ final class EdgeErrorTest {
             }
             for (int none : new int[] {-1, i, i + 1, 499, 500, 501, 502, 503, Integer.MAX_VALUE, Integer.MIN_VALUE}) {
                 due.same("means(" + none + ")", x.means(none), PlainJava.BAD);
+            }
+        }
+    }
+
+    /** Each of the ERRORS 1 to 15 is one that promises 11 to 15 and 19 look at, also before judge() has told it. */
+    private static void whateverErrorItIs(Due due) {
+        String[] rows = {"", "} void m() {", "int a;", "x = 1;", "a = 9999999999;", "a = true;", "m(1);", "k = 1;", "switch (1) { default: default: }", "break;", "l: l: ;", "return 1;", "1;",
+            "return; ;", "} int n() {", "int v; out(v);"};
+        for (int error = 0; error < rows.length; error++) {
+            String text = "void m() { int a = 5; final int k = 7; out(k + 1); " + rows[error] + " }";
+            for (int round = 0; round < 2; round++) {
+                PlainJava x = Due.of(text);
+                if (round == 1) {
+                    due.same("judge() of " + text, x.judge(), error);
+                }
+                boolean is = error > 0;
+                due.same("means in " + text, x.means(6), is ? PlainJava.NO : 0);
+                due.same("means of no NAME in " + text, x.means(5), PlainJava.BAD);
+                due.same("type in " + text, x.type(8, 8), is ? PlainJava.NO : 3);
+                due.same("type of none in " + text, x.type(0, 0), is ? PlainJava.NO : PlainJava.BAD);
+                due.same("constant in " + text, x.constant(8, 8), is ? Due.NOTHING : 5);
+                due.same("constant of k + 1 in " + text, x.constant(18, 20), is ? Due.NOTHING : 8);
+                due.same("ends in " + text, x.ends(5), is ? PlainJava.NO : 1);
+                due.same("ends of none in " + text, x.ends(0), is ? PlainJava.NO : PlainJava.BAD);
+                due.same("assigned in " + text, x.assigned(10, 0), is ? PlainJava.NO : 1);
+                due.same("assigned of none in " + text, x.assigned(0, 0), is ? PlainJava.NO : PlainJava.BAD);
+                due.same("run of " + text, x.run(0, 99), is ? PlainJava.NO : 0);
+                due.same("run of none in " + text, x.run(2, 99), PlainJava.BAD);
+                due.same("ran(10) of " + text, x.ran(10), is ? Due.NOTHING : 8);
+                due.same("variable in " + text, x.variable(1, 2), 1);
+                due.same("method in " + text, x.method(0, 1), 5);
             }
         }
     }

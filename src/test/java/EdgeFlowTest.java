@@ -342,7 +342,8 @@ final class EdgeFlowTest {
         for (String exp : new String[] {"@v > 0 & " + A, "o && " + A + " && v > 0 || @v > 1", "o && " + A + " || @v > 0", "(o || " + A + ") && @v > 0", "o ? @v > 0 : " + A,
             "o ? " + A + " : @v > 0", "(o && " + A + ") ? p : @v > 0", "(o || " + A + ") ? @v > 0 : p", "true && @v > 0", "false || @v > 0", "(true ? @v : 1) > 0", "(false ? 1 : @v) > 0",
             "(o ? v = 1 : 2) + @v > 0", "(v = @v) > 0", "@v + (v = 1) > 0", "i > 0 & @v > 0", "-@v > 0", "(byte) @v > 0", "(@v) > 0", "!(o && " + A + ") && @v > 0",
-            "!(o || " + A + ") || @v > 0"}) {
+            "!(o || " + A + ") || @v > 0", "(o && " + A + ") & @v > 0", "(o || " + A + ") & @v > 0", "(o && " + A + ") == @v > 0", "(o || " + A + ") ^ @v > 0",
+            "(o && " + A + ") | (p && @v > 0)", "(p = o && " + A + ") & @v > 0"}) {
             taken(due, exp);
         }
     }
@@ -362,6 +363,11 @@ final class EdgeFlowTest {
             due.fine(HEAD + "int v; v = 1; " + use.replace("@", "") + " }");
             due.fine(HEAD + "int v = 1; " + use.replace("@", "") + " }");
         }
+        due.error(15, HEAD + "int v; m(o, p && " + A + ", @v); }");
+        due.error(15, HEAD + "int v; m(o, p || " + A + ", @v); }");
+        due.fine(HEAD + "int v; m(o, p & " + A + ", v); }");
+        due.error(15, HEAD + "int v; m(o, p, @v + (v = 1)); }");
+        due.fine(HEAD + "int v; m(" + A + ", v > 1, v); }");
         due.error(15, "int m() { int v; return @v; }");
         due.error(15, "boolean m() { boolean v; return @v; }");
         // what is assigned is not taken
@@ -414,7 +420,8 @@ final class EdgeFlowTest {
         for (String row : new String[] {"while (o) v = 1;", "while (true) { if (o) break; v = 1; }", "while (true) { if (o) break; v = 1; break; }", "while (o && " + A + ") ;",
             "while (o || " + A + ") break;", "while (o) { v = 1; break; }", "l: while (true) { if (o) break l; v = 1; break; }", "l: while (true) { while (true) { if (o) break l; v = 1; } }",
             "do { if (o) break; v = 1; } while (p);", "do { if (o) continue; v = 1; } while (p);", "do { if (o) break; } while ((v = i) > 0);", "do ; while (o && " + A + ");", "do ; while (o);",
-            "do { if (o) { v = 1; continue; } } while (p);", "do { if (o) { v = 1; break; } } while (p);", "l: do { while (o) continue l; v = 2; } while (p);", "do { if (o) v = 1; } while (p);",
+            "do { if (o) { v = 1; continue; } } while (p);", "do { if (o) continue; if (p) { v = 1; continue; } v = 2; } while (p);",
+            "do { if (o) { v = 1; continue; } if (p) continue; v = 2; } while (p);", "while (true) { if (o) break; if (p) { v = 1; break; } }", "while (true) { if (o) { v = 1; break; } if (p) break; }", "do { if (o) { v = 1; break; } } while (p);", "l: do { while (o) continue l; v = 2; } while (p);", "do { if (o) v = 1; } while (p);",
             "for (; o; v = 1) ;", "for (; o; ) v = 1;", "for (; ; ) { if (o) break; v = 1; }", "for (; ; v = 1) { if (o) break; }", "for (; o && " + A + "; ) ;", "for (; ; ) if (o) break;",
             "for (int w = 1; o; v = 1) ;"}) {
             behind(due, 0, row);

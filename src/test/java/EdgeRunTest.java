@@ -28,8 +28,11 @@ final class EdgeRunTest {
         noCatchAndNoFinally(due);
         operandsFromTheLeft(due);
         pastAConstantsExp(due);
+        waysThroughAFinallyInTurn(due);
         asDeepAsCanBe(due);
         asManyValuesAsCanWait(due);
+        valuesThatWaitStay(due);
+        nothingIsLeftOfARun(due);
         whatRanTells(due);
         due.end();
     }
@@ -872,6 +875,111 @@ final class EdgeRunTest {
         PlainJava w = Due.of("int m() { int a = 0; " + Due.repeated("a += 1; ", 121) + "return a; }");
         due.same("told(0)", w.told(0), 498);
         run(due, w, "121 assignments", 20000, 1, 121);
+    }
+
+    /** What waits in a caller is not touched by what a call does, however it goes on. */
+    private static void valuesThatWaitStay(Due due) {
+        for (String row : new String[] {"int a; a = 5; return a;", "int a; int b; { int c; } a = 2; b = 3; return a + b;", "for (int i; in() > 0; ) ; return 5;", "out(1); in(); return 5;",
+            "int a = 3; a++; ++a; a = a * 1; return a;", "try { return 1 + 2 * (3 - (1 / in())); } catch (e) { return 6 + e; }", "try { throw 5; } catch (e) { return e; }",
+            "try { return 9 * (8 + 7 / in()); } finally { return 5; }", "l: { int k; try { k = 4 + 3 / in(); } finally { break l; } } return 5;", "switch (in()) { case 0: int k; k = 5; return k; default: return 6; }",
+            "int i = 0; while (i < 5) { int k; i++; } return i;", "boolean b = in() > 0 && in() > 0 || in() == 0; return b ? 5 : 6;", "g(); return 5;", "int r; do r = 5; while (in() > 0); return r;"}) {
+            PlainJava x = Due.of("int m() { return 1000 - f() * 3 + (100 << (7 - f())) - h(1, f(), 2); } int f() { " + row + " } void g() { int z; z = 1; return; } int h(int a, int b, int c) { "
+                + "return a * 10000 + b * 100 + c; }");
+            due.same("judge() of " + row, x.judge(), 0);
+            due.same("run of " + row, x.run(0, 20000), 1);
+            due.same("ran(0) of " + row, x.ran(0), 1000 - 15 + (100 << 2) - 10502);
+        }
+        // the last of 30 calls has variables of its own, too
+        PlainJava x = Due.of("int m(int n, int k) { int a = n * 2; int b = k + 1; int c = n == 1 ? a * 1000 + b : m(n - 1, b); return c * 2 + a - b; }");
+        x.argument(0, 30);
+        long want = 0;
+        for (int n = 1; n <= 30; n++) {
+            int b = 31 - n;
+            int c = n == 1 ? n * 2 * 1000 + b : (int) want;
+            want = c * 2 + n * 2 - b;
+        }
+        run(due, x, "30 calls with five variables", 20000, 1, want);
+    }
+
+    private static int nested(int levels, int n) {
+        if (levels == 0) {
+            return n < 2 ? 3 : nested(13, n - 1);
+        }
+        int k = levels + n;
+        int inner = 6 | 7 ^ 8 & 9 << 10 + 11 * nested(levels - 1, n);
+        return k * 3 + 2 * 5 - 3 * 7 + 4 * 11 - 5 * 13 + inner * 17;
+    }
+
+    /** Nothing of a run is left for the next one, though values, calls and ways through a finally stood open when it ended at once. */
+    private static void nothingIsLeftOfARun(Due due) {
+        StringBuilder exp = new StringBuilder();
+        for (int i = 0; i < 13; i++) {
+            exp.append("f(").append(13 - i).append("+n,5,7,11,13,6|7^8&9<<10+11*");
+        }
+        String text = "int m(int n){return n<1?3:" + exp + "m(n-1)" + Due.repeated(")", 13) + ";} int f(int a,int b,int c,int d,int e,int g){return a*3+2*b-3*c+4*d-5*e+g*17;}";
+        PlainJava x = Due.of(text);
+        due.same("judge()", x.judge(), 0);
+        x.argument(0, 28);
+        run(due, x, "eleven operands wait 13 times in each call", 20000, 1, nested(13, 28));
+        for (int round = 0; round < 8; round++) {
+            x.argument(0, 40);
+            due.same("too many calls", x.run(0, 20000), 4);
+            x.argument(0, 28);
+            due.same("too many STEPS", x.run(0, 70), 3);
+        }
+        run(due, x, "and all is as before", 20000, 1, nested(13, 28));
+        // a throw in the midst of an exp leaves nothing: 400 times 36 values
+        PlainJava y = Due.of("int m(int n) { int s = 0; for (int i = 0; i < n; i++) try { s += 1 - 2 * (" + Due.repeated("3 - 4 * (", 14) + "5 / in()" + Due.repeated(")", 14)
+            + "); } catch (e) { s += e; } return s + 1 + 2 * (3 + 4 * (5 + s)); }");
+        y.argument(0, 400);
+        due.same("judge()", y.judge(), 0);
+        run(due, y, "400 throws", 20000, 1, -400 + 1 + 2 * (3 + 4 * (5 - 400)));
+        // a throw out of a call leaves nothing either
+        PlainJava z = Due.of("int m(int n) { int s = 0; for (int i = 0; i < n; i++) try { s += 1 - 2 * (3 - 4 * (5 - 6 * (7 - 8 * (9 - 10 * f(11 - 12 * (13 - 14 * in())))))); } catch (e) { s += e; } "
+            + "return s; } int f(int a) { return 1 - 2 * (3 - 4 * (5 - 6 * (7 - 8 / in()))); }");
+        z.argument(0, 900);
+        run(due, z, "900 throws out of a call", 20000, 1, -900);
+    }
+
+    /** What a finally goes on with is of the way that was come to it by, each time anew. */
+    private static void waysThroughAFinallyInTurn(Due due) {
+        run(due, "void m() { for (int i = 0; i < 4; i++) { try { if (i % 2 == 0) continue; out(i); } finally { out(10 + i); } out(20 + i); } }", 0, 0, 10, 1, 11, 21, 12, 3, 13, 23);
+        run(due, "void m() { for (int i = 0; i < 4; i++) { l: { try { if (i % 2 == 0) break l; out(i); } finally { out(10 + i); } out(20 + i); } } }", 0, 0, 10, 1, 11, 21, 12, 3, 13, 23);
+        run(due, "void m() { for (int i = 0; i < 4; i++) try { try { if (i % 2 == 0) throw i; out(i); } finally { out(10 + i); } out(20 + i); } catch (e) { out(30 + e); } }",
+            0, 0, 10, 30, 1, 11, 21, 12, 32, 3, 13, 23);
+        run(due, "void m() { for (int i = 0; i < 4; i++) out(f(i)); } int f(int i) { try { if (i % 2 == 0) return i; } finally { out(10 + i); } return 20 + i; }", 0, 0, 10, 0, 11, 21, 12, 2, 13, 23);
+        run(due, "void m() { for (int i = 0; i < 4; i++) { try { if (i % 2 == 0) throw 5; } catch (e) { if (i == 0) continue; } finally { out(10 + i); } out(20 + i); } }",
+            0, 0, 10, 11, 21, 12, 22, 13, 23);
+        PlainJava x = Due.of("int m(int w) { try { if (w == 1) throw 5; if (w == 2) return 6; if (w == 3) while (true) ; } finally { out(1); } out(2); return 7; }");
+        int[] outcomes = {1, 2, 1, 3};
+        long[] values = {7, 5, 6, 0};
+        for (int w : new int[] {0, 1, 0, 2, 0, 3, 0, 1, 2, 3, 0}) {
+            x.argument(0, w);
+            due.same("run with " + w, x.run(0, 100), outcomes[w]);
+            due.same("ran(0)", x.ran(0), values[w]);
+            due.same("ran(2)", x.ran(2), w == 0 ? 2 : w == 3 ? 0 : 1);
+        }
+        // ways that wait in many calls at once, in S's of other depths
+        long[] told = new long[27];
+        for (int i = 0; i < 27; i++) {
+            told[i] = i;
+        }
+        run(due, "int m() { return f(27); } int f(int n) { try { return n; } finally { if (n > 0) out(f(n - 1)); } }", 1, 27, told);
+        run(due, "int m() { return f(27); } int f(int n) { { try { return n; } finally { if (n > 0) out(g(n - 1)); } } } int g(int n) { try { return n; } finally { if (n > 0) out(f(n - 1)); } }", 1, 27, told);
+        run(due, "int m() { return f(27); } int f(int n) { try { return n; } finally { if (n > 0) out(g(n - 1)); } } int g(int n) { { { try { return n; } finally { if (n > 0) out(f(n - 1)); } } } }", 1, 27, told);
+        run(due, "int m() { try { return f(26); } catch (e) { return e; } } int f(int n) { { try { throw n; } finally { if (n > 0) try { g(n - 1); } catch (e) { out(e); } } } } "
+            + "int g(int n) { try { throw n; } finally { if (n > 0) try { f(n - 1); } catch (e) { out(e); } } }", 1, 26, java.util.Arrays.copyOf(told, 26));
+        // a throw out of 29 calls, each of them 17 catches deep
+        StringBuilder deep = new StringBuilder("void m(int n) { ");
+        for (int i = 0; i < 17; i++) {
+            deep.append("try { throw 1; } catch (e").append(i).append(") { ");
+        }
+        PlainJava y = Due.of(deep + "if (n == 1) throw 5; m(n - 1);" + Due.repeated(" }", 18));
+        y.argument(0, 29);
+        run(due, y, "a throw out of 29 calls", 20000, 2, 5);
+        PlainJava z = Due.of(deep.toString().replace("void m", "void f") + "if (n == 1) throw 5; f(n - 1);" + Due.repeated(" }", 18) + " int m() { try { f(28); } catch (e) { return e + 1; } return 0; }");
+        due.same("run(1, 20000)", z.run(1, 20000), 1);
+        due.same("ran(0)", z.ran(0), 6);
     }
 
     /** Promise 20: "-1234567890123: none such, or there was none" */

@@ -11,15 +11,18 @@ final class EdgeTextTest {
         theTapeHasUpTo2500Bytes(due);
         theHighestByteFirst(due);
         asManyAsThereAreAreCut(due);
+        whatWasCutIsGone(due);
         whatATokenBeginsWith(due);
         namesHaveAtMostTen(due);
         namesDifferInEveryByte(due);
+        namesDifferByTwo(due);
         wordsAreNoNames(due);
         numbersHaveUpToNineteen(due);
         charactersAreWhole(due);
         blanksAndRemarks(due);
         signsAreAsLongAsCanBe(due);
         signsAreCutOneByOne(due);
+        signsThatAreNoOperators(due);
         strengths(due);
         theEndIsTheTextsLength(due);
         whatGoesAheadAtOneToken(due);
@@ -113,6 +116,37 @@ final class EdgeTextTest {
         due.same("cut(20) of 20", x.cut(20), 0);
     }
 
+    /** What stood behind the last byte, before it was cut or in an earlier text, belongs to no token. */
+    private static void whatWasCutIsGone(Due due) {
+        String[][] rows = {{"void m() { x = @'a", "'; }"}, {"void abcdefghij", "k() { }"}, {"void m() { x = 1234567890123456789", "0; }"}, {"void m() { } @/", "/ x"},
+            {"void m() { x = a &", "& b; }"}, {"void m() { x = 1", "L; }"}, {"void", "x() { }"}, {"@voi", "d m() { }"}, {"void m() {", "}"}, {"void m() { x = @'", "a'; }"}};
+        int[] faults = {1, 2, 2, 2, 2, 2, 2, 2, 2, 1};
+        for (int i = 0; i < rows.length; i++) {
+            String text = rows[i][0].replace("@", "");
+            int place = rows[i][0].indexOf('@') < 0 ? text.length() : rows[i][0].indexOf('@');
+            PlainJava x = new PlainJava();
+            Due.feed(x, text + rows[i][1]);
+            due.same("cut", x.cut(rows[i][1].length()), text.length());
+            due.same("read() of " + text + " without " + rows[i][1], x.read(), -10 - faults[i]);
+            due.same("place()", x.place(), place);
+            // and what an earlier text had there
+            PlainJava y = new PlainJava();
+            Due.feed(y, text + rows[i][1]);
+            y.read();
+            Due.feed(y, text);
+            due.same("read() of " + text + " behind a longer text", y.read(), -10 - faults[i]);
+            due.same("place()", y.place(), place);
+        }
+        PlainJava x = new PlainJava();
+        Due.feed(x, "void m() { out(1); } # this is cut");
+        due.same("cut", x.cut(14), 20);
+        due.same("read()", x.read(), 1);
+        Due.feed(x, "int n() { return 7; }");
+        due.same("read()", x.read(), 1);
+        due.same("told(0)", x.told(0), 9);
+        due.same("run", x.run(0, 9), 1);
+    }
+
     // ---- tokens
 
     /** "1 no token begins there": what each of the 256 bytes is at the beginning of a text. */
@@ -173,6 +207,28 @@ final class EdgeTextTest {
         for (String name : names) {
             due.error(2, "void m() { int " + name + "; int @" + name + "; }");
         }
+    }
+
+    private static void namesDifferByTwo(Due due) {
+        String all = "0123456789ABCDEFGHIJKLMNOPQRSTUVWXYZabcdefghijklmnopqrstuvwxyz";
+        for (int i = 0; i < all.length(); i++) {
+            for (int k = i + 1; k < all.length(); k++) {
+                // in the last place, in the first one (a letter), in the midst of ten
+                notTheSame(due, "a" + all.charAt(i), "a" + all.charAt(k));
+                notTheSame(due, "abcde" + all.charAt(i) + "0zZ9", "abcde" + all.charAt(k) + "0zZ9");
+                if (i >= 10) {
+                    notTheSame(due, "" + all.charAt(i), "" + all.charAt(k));
+                    notTheSame(due, all.charAt(i) + "a", all.charAt(k) + "a");
+                    notTheSame(due, all.charAt(i) + "A", all.charAt(k) + "A");
+                    notTheSame(due, all.charAt(i) + "0", all.charAt(k) + "0");
+                }
+            }
+        }
+    }
+
+    private static void notTheSame(Due due, String one, String other) {
+        PlainJava x = Due.of("void m(int " + one + ", int " + other + ") { }");
+        due.same("judge() of " + one + " and " + other, x.judge(), 0);
     }
 
     /** "WORDS are NAMES that are none" */
@@ -334,6 +390,20 @@ final class EdgeTextTest {
         due.fault(2, "void m(){a+ @=b;}");
         due.fault(2, "void m(){--@1;}");
         due.readable("void m(){- -1;!!a;~~a;-~+1;}", 1);
+    }
+
+    private static void signsThatAreNoOperators(Due due) {
+        for (String sign : new String[] {"(", ")", "{", "}", ",", ":", "=", "+=", "-=", "*=", "/=", "%=", "&=", "|=", "^=", "<<=", ">>=", ">>>=", "!", "~", "++", "--"}) {
+            due.fault(2, "void m() { x = 1 @" + sign + " 2; }");
+            due.fault(2, "void m() { return (a) @" + sign + " b; }");
+            due.fault(2, "void m() { int a = f(1) @" + sign + " b; }");
+        }
+        for (String sign : new String[] {")", "}", ",", ":", "?", ";", "=", "+=", "||", "&&", "|", "^", "&", "==", "!=", "<", "<=", ">", ">=", "<<", ">>", ">>>", "*", "/", "%", "{"}) {
+            due.fault(2, "void m() { x = @" + sign + " 2; }");
+            due.fault(2, "void m() { x = 1 + @" + sign + " 2; }");
+            due.fault(2, "void m() { x = - @" + sign + " 2; }");
+            due.fault(2, "void m() { f(1, @" + sign + " 2); }");
+        }
     }
 
     // ---- strengths

@@ -20,6 +20,7 @@ final class StaysTest {
         faults(due);
         faultsOfEachKind(due);
         readBeginsAnew(due);
+        manyPrograms(due);
         due.end();
     }
 
@@ -224,6 +225,37 @@ final class StaysTest {
         same(due, "behind many FAULTS", x, y);
     }
 
+    /** One object reads many programs, with an ERROR and without, small and as big as can be: each is as on a new object. */
+    private static void manyPrograms(Due due) {
+        String big = "int m() { int a = 0; " + Due.repeated("a += 1; ", 121) + "return a; }";
+        String[] texts = {FINE, WITH_AN_ERROR, "", FINE, "void a(int x) { out(x); }", WITH_AN_ERROR, WITH_AN_ERROR, FINE, "boolean m(boolean b) { return !b; }", FINE};
+        PlainJava x = new PlainJava();
+        for (String text : texts) {
+            Due.feed(x, text);
+            PlainJava y = Due.of(text);
+            due.same("read() of " + text, x.read(), text.isEmpty() ? 0 : 1);
+            for (int what = 0; what <= 2; what++) {
+                due.same("told(" + what + ") of " + text, x.told(what), y.told(what));
+            }
+            due.same("judge() of " + text, x.judge(), y.judge());
+            due.same("place() of " + text, x.place(), y.place());
+            due.same("variable(0, 0) of " + text, x.variable(0, 0), y.variable(0, 0));
+            due.same("variable(1, 1) of " + text, x.variable(1, 1), y.variable(1, 1));
+            due.same("variable(3, 0) of " + text, x.variable(3, 0), y.variable(3, 0));
+            due.same("ends(10) of " + text, x.ends(10), y.ends(10));
+            due.same("run of " + text, x.run(0, 100), y.run(0, 100));
+            due.same("ran(0) of " + text, x.ran(0), y.ran(0));
+            due.same("ran(1) of " + text, x.ran(1), y.ran(1));
+        }
+        PlainJava z = new PlainJava();
+        for (int i = 0; i < 8; i++) {
+            Due.feed(z, i % 2 == 0 ? big : big.replace("+= 1", "-= 2"));
+            due.same("read()", z.read(), 1);
+            due.same("run", z.run(0, 200), 1);
+            due.same("ran(0)", z.ran(0), i % 2 == 0 ? 121 : -242);
+        }
+    }
+
     /** Promise 20: "Of the latest run() of this program (what was told since the latest read() without a FAULT)" */
     private static void readBeginsAnew(Due due) {
         PlainJava x = used(FINE);
@@ -273,6 +305,7 @@ final class StaysTest {
         Due.feed(y, "void c() { } ");
         due.same("read()", y.read(), 1);
         due.same("told(1)", y.told(1), 1);
+        due.same("told(2)", y.told(2), 0);
         due.same("ends(9)", y.ends(9), PlainJava.BAD);
         due.same("judge()", y.judge(), 0);
     }
