@@ -2352,7 +2352,7 @@ public final class PlainJava {
         static final int FINALLY_IN = 21;
         static final int FINALLY_OUT = 22;
         static final int METHOD_END = 23;
-        // `while (a) ;` makes most: six orders of five tokens
+        // `a += 1;` makes most: five orders of four tokens
         private static final int ROOM = MOST_TOKENS * 2;
 
         final int[] order = new int[ROOM];

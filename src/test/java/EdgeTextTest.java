@@ -761,7 +761,6 @@ final class EdgeTextTest {
         oneDeeper(due, "f(@1, 2);");
         twoDeeper(due, "f(1, (@2));");
         twoDeeper(due, "f(1, 2, -@3);");
-        oneDeeper(due, "f(@);");
         for (String sign : new String[] {"+", "-", "!", "~"}) {
             oneDeeper(due, sign + "@a;");
             twoDeeper(due, sign + sign.replace("+", " +").replace("-", " -") + "@a;");
@@ -828,8 +827,8 @@ final class EdgeTextTest {
         String[] ahead = {"{", "if (a)", "while (a)", "do", "for (; ; )", "l:", "switch (a) {", "try {", "(", "f(", "-", "!", "~", "+", "(int)", "a =", "a >>>=", "a ?"};
         for (String first : ahead) {
             for (String token : any) {
-                // behind an open ( a type is that of a cast, which is one deeper still
-                if (!first.equals("(") || !token.equals("int")) {
+                // behind an open ( a type is that of a cast, which is one deeper still; of f() see ReadingsTest
+                if (!(first.equals("(") && token.equals("int") || first.equals("f(") && token.equals(")"))) {
                     due.fault(3, "void m() " + Due.repeated("{ ", 20) + first + " @" + token + " ;");
                 }
             }

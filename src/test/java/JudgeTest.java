@@ -254,7 +254,6 @@ final class JudgeTest {
         due.error(5, Due.m("out(true ? @out(1) : q);"));
         due.error(5, Due.m("boolean a = true; @a += q;"));
         due.error(5, Due.m("boolean a = true; @a <<= q;"));
-        due.error(5, Due.m("n(@out(1), q);"));
         due.error(5, Due.m("switch (@true) { case q: }"));
         // these take a boolean as well as a number, so only q is at fault
         due.error(3, Due.m("boolean a = true == @q;"));

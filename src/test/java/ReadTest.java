@@ -157,19 +157,17 @@ final class ReadTest {
         due.readable(Due.m(Due.repeated("{", 19) + "int a = 1 + 2;" + Due.repeated("}", 19)), 1);
         due.fault(3, Due.m(Due.repeated("{", 20) + "@int a = 1;" + Due.repeated("}", 20)));
         due.fault(3, Due.m(Due.repeated("{", 19) + "int a = (@1);" + Due.repeated("}", 19)));
-        // a } or ) right behind the 21st one is too much as well
+        // a } right behind the 21st one is too much as well
         due.readable(Due.m(Due.repeated("{", 19) + Due.repeated("}", 19)), 1);
         due.fault(3, Due.m(Due.repeated("{", 20) + "@}" + Due.repeated("}", 19)));
         due.readable(Due.m(Due.repeated("{", 18) + "switch (1) { }" + Due.repeated("}", 18)), 1);
         due.fault(3, Due.m(Due.repeated("{", 19) + "switch (1) { @}" + Due.repeated("}", 19)));
         due.fault(3, Due.m(Due.repeated("{", 19) + "try { @} finally { }" + Due.repeated("}", 19)));
         due.readable(Due.m(Due.repeated("(", 18) + "f()" + Due.repeated(")", 18) + ";"), 1);
-        due.fault(3, Due.m(Due.repeated("(", 19) + "f(@)" + Due.repeated(")", 19) + ";"));
         // whatever the token is, but 1 goes ahead
         due.fault(3, Due.m(Due.repeated("{", 20) + "@else" + Due.repeated("}", 20)));
         due.fault(3, Due.m(Due.repeated("(", 20) + "@) + 1;"));
         due.fault(1, Due.m(Due.repeated("{", 20) + "@#" + Due.repeated("}", 20)));
-        due.fault(3, "void m() {" + Due.repeated("{", 20));
         due.fault(1, Due.m(Due.repeated("(", 20) + "@'"));
         // operators, and what is in the ( ) of if and the like, are within no more
         due.readable(Due.m("if (" + Due.repeated("1 + ", 150) + Due.repeated("(", 19) + "1" + Due.repeated(")", 19) + ") ;"), 1);

@@ -227,7 +227,7 @@ final class StaysTest {
 
     /** One object reads many programs, with an ERROR and without, small and as big as can be: each is as on a new object. */
     private static void manyPrograms(Due due) {
-        String big = "int m() { int a = 0; " + Due.repeated("a += 1; ", 121) + "return a; }";
+        String big = "int m(){int a=0;" + Due.repeated("a+=1;", 121) + "return a;}";
         String[] texts = {FINE, WITH_AN_ERROR, "", FINE, "void a(int x) { out(x); }", WITH_AN_ERROR, WITH_AN_ERROR, FINE, "boolean m(boolean b) { return !b; }", FINE};
         PlainJava x = new PlainJava();
         for (String text : texts) {
@@ -248,8 +248,9 @@ final class StaysTest {
             due.same("ran(1) of " + text, x.ran(1), y.ran(1));
         }
         PlainJava z = new PlainJava();
-        for (int i = 0; i < 8; i++) {
-            Due.feed(z, i % 2 == 0 ? big : big.replace("+= 1", "-= 2"));
+        // each time 32 feeds, a cut and three calls: as many as there may be with 512
+        for (int i = 0; i < 14; i++) {
+            Due.feed(z, i % 2 == 0 ? big : big.replace("+=1", "-=2"));
             due.same("read()", z.read(), 1);
             due.same("run", z.run(0, 200), 1);
             due.same("ran(0)", z.ran(0), i % 2 == 0 ? 121 : -242);
